@@ -35,6 +35,9 @@ public final class EvaluatingTest {
         Probe.gives1("(COND . T)", "fault 3");
         Probe.gives1("(COND (NIL 1) . T)", "fault 3");
         Probe.gives1("(COND (NIL 1) (T))", "fault 3");
+        // What is behind a clause is looked at when it is come to.
+        Probe.gives1("(COND (T 1) 5)", "1");
+        Probe.gives1("(COND (T 1) . 5)", "1");
         Probe.gives1("(DEFINE X)", "fault 3");
         Probe.gives1("(DEFINE X 1 2)", "fault 3");
         Probe.gives1("(DEFINE X 1 . 2)", "fault 3");

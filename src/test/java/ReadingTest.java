@@ -81,6 +81,17 @@ public final class ReadingTest {
             "(" + (open.repeat(57) + "NIL" + close.repeat(57) + " ").repeat(2).trim() + ")");
     }
 
+    /** Texts that are as long as a text may be, with a token in every character. */
+    private static void longest() {
+        Probe.gives1("(" + "()".repeat(999) + "(", "place 2000");
+        Probe.gives1("(" + "()".repeat(999) + ")", "fault 3");
+        Probe.gives1("1".repeat(9) + " ".repeat(1991), "111111111");
+        Probe.gives1(" ".repeat(2000), "none");
+        Probe.gives1(" ".repeat(1999) + "T", "T");
+        Probe.gives1(" ".repeat(1999) + "-", "place 2000");
+        Probe.gives1("(QUOTE(" + "1A ".repeat(663) + "))", "fault 6");
+    }
+
     private static void standing() {
         Probe probe = Probe.wide();
         probe.gives("  (CAR 1)  X (A . ) 5 6", "fault 2");
@@ -125,6 +136,7 @@ public final class ReadingTest {
         lists();
         faults();
         depth();
+        longest();
         standing();
         rightException();
         Probe.end();
