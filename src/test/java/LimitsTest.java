@@ -113,6 +113,16 @@ public final class LimitsTest {
         holding(4).gives(labels, "T");
         holding(5).gives(labels, "fault 6").counts(0, 5);
         holding(6).gives(labels, "fault 6").counts(0, 0);
+        // An applying that waits for its function does not hold it: 14 pairs are read, no more than six made.
+        String maker = "(DEFINE F (LAMBDA (N) (CAR (CONS (QUOTE ATOM) (CONS N (CONS N (CONS N N)))))))";
+        String made = "((F (NULL (QUOTE (1 2 3 4 5 6)))) 7)";
+        new Probe(34, 8, 100).gives(maker, "F").counts(1, 20).gives(made, "T");
+        new Probe(33, 8, 100).gives(maker, "F").gives(made, "fault 6").counts(0, 0);
+        // It does hold its values: six, beside 23 of the function, four made, and two of the binding.
+        String larger = "(DEFINE F (LAMBDA (N) (CAR (CONS (QUOTE ATOM) (CONS N (CONS N (CONS N (CONS N N))))))))";
+        String kept = "((F NIL) (QUOTE (1 2 3 4 5 6)))";
+        new Probe(36, 8, 100).gives(larger, "F").counts(1, 23).gives(kept, "NIL");
+        new Probe(35, 8, 100).gives(larger, "F").gives(kept, "fault 6").counts(0, 24);
         // No names want no pairs.
         holding(11).gives("((LAMBDA () 1))", "1");
         // The third call of APP finds 35 pairs held, and wants four.
