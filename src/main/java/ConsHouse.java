@@ -160,7 +160,7 @@ public final class ConsHouse {
             return word >= PAIR_BASE && word < SIGN_BASE;
         }
 
-        /** Whether an atom stands for itself always, so that it can be neither bound nor applied. */
+        /** Whether an atom stands for itself always, whatever is bound to it. */
         static boolean isFixed(long atom) {
             return isNumber(atom) || atom == NIL || atom == T;
         }

@@ -179,28 +179,16 @@ public final class ModelTest {
         }
     }
 
-    private String stateOf(ConsHouse house) {
-        StringBuilder state = new StringBuilder();
-        for (int k = -1; k <= house.size(); k++) {
-            state.append((char) (house.out(k) + 1));
+    private static void compare(String where, PlainHouse plain, ConsHouse house) {
+        Probe.due("fault, " + where, plain.fault(), house.fault());
+        Probe.due("place, " + where, plain.place(), house.place());
+        Probe.due("size, " + where, plain.size(), house.size());
+        for (int k = -1; k <= plain.size(); k++) {
+            Probe.due("out, " + where, plain.out(k), house.out(k));
         }
-        state.append(" fault ").append(house.fault()).append(" place ").append(house.place());
         for (int what = -1; what <= 4; what++) {
-            state.append(" count ").append(house.count(what));
+            Probe.due("count " + what + ", " + where, plain.count(what), house.count(what));
         }
-        return state.toString();
-    }
-
-    private String stateOf(PlainHouse house) {
-        StringBuilder state = new StringBuilder();
-        for (int k = -1; k <= house.size(); k++) {
-            state.append((char) (house.out(k) + 1));
-        }
-        state.append(" fault ").append(house.fault()).append(" place ").append(house.place());
-        for (int what = -1; what <= 4; what++) {
-            state.append(" count ").append(house.count(what));
-        }
-        return state.toString();
     }
 
     private void run(long seed, int[] seen) {
@@ -221,11 +209,11 @@ public final class ModelTest {
             }
             String where = "seed " + seed + " limits " + cells + " " + tasks + " " + steps + " text " + text;
             Probe.due("next, " + where, due, nextOf(house));
-            Probe.due("state, " + where, stateOf(plain), stateOf(house));
+            compare(where, plain, house);
             if (chance.nextInt(8) == 0) {
                 plain.clear();
                 house.clear();
-                Probe.due("clear, " + where, stateOf(plain), stateOf(house));
+                compare("clear behind " + where, plain, house);
             }
         }
     }
