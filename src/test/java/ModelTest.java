@@ -3,7 +3,10 @@ import java.util.Random;
 
 /** Runs of calls made by chance from fixed seeds: ConsHouse answers what the plain model answers. */
 public final class ModelTest {
-    private static final int RUNS = 6000;
+    private static final int RUNS = 12000;
+    // What the document promises is about so many calls of one object; comparing has these of them.
+    private static final int CALLS = 512;
+    private static final int COMPARED = 18;
     private static final String[] LIBRARY = {
         "(DEFINE APP (LAMBDA (X Y) (COND ((NULL X) Y) (T (CONS (CAR X) (APP (CDR X) Y))))))",
         "(DEFINE REV (LAMBDA (X Y) (COND ((NULL X) Y) (T (REV (CDR X) (CONS (CAR X) Y))))))",
@@ -169,6 +172,14 @@ public final class ModelTest {
         return texts;
     }
 
+    private String[] naming() {
+        String[] texts = new String[12];
+        for (int turn = 0; turn < texts.length; turn++) {
+            texts[turn] = chance.nextInt(3) > 0 ? spoiled(manyNames()) : someText(turn);
+        }
+        return texts;
+    }
+
     private static int nextOf(ConsHouse house) {
         try {
             return house.next();
@@ -179,26 +190,34 @@ public final class ModelTest {
         }
     }
 
-    private static void compare(String where, PlainHouse plain, ConsHouse house) {
+    /** Eight characters of what is printed are compared, and those ahead of it and behind it. */
+    private void compare(String where, PlainHouse plain, ConsHouse house) {
         Probe.due("fault, " + where, plain.fault(), house.fault());
         Probe.due("place, " + where, plain.place(), house.place());
         Probe.due("size, " + where, plain.size(), house.size());
-        for (int k = -1; k <= plain.size(); k++) {
-            Probe.due("out, " + where, plain.out(k), house.out(k));
+        int from = chance.nextInt(4) == 0 ? Math.max(0, plain.size() - 8) : chance.nextInt(plain.size() + 1);
+        for (int k = from; k < from + 8; k++) {
+            Probe.due("out " + k + ", " + where, plain.out(k), house.out(k));
         }
+        Probe.due("out -1, " + where, plain.out(-1), house.out(-1));
         for (int what = -1; what <= 4; what++) {
             Probe.due("count " + what + ", " + where, plain.count(what), house.count(what));
         }
     }
 
     private void run(long seed, int[] seen) {
-        boolean crowded = chance.nextInt(3) > 0;
-        int cells = crowded ? 100 + chance.nextInt(100) : 14 + chance.nextInt(300);
+        int kind = chance.nextInt(8);
+        int cells = kind > 2 ? 100 + chance.nextInt(100) : 14 + chance.nextInt(300);
         int tasks = chance.nextInt(3) == 0 ? 3 + chance.nextInt(12) : 100;
         int steps = chance.nextInt(3) == 0 ? 9 + chance.nextInt(200) : 2000;
         ConsHouse house = new ConsHouse(cells, tasks, steps);
         PlainHouse plain = new PlainHouse(cells, tasks, steps);
-        for (String text : crowded ? crowding() : mixture()) {
+        int calls = 0;
+        for (String text : kind > 2 ? crowding() : kind > 0 ? mixture() : naming()) {
+            calls += Probe.packed(text).length + 1 + COMPARED;
+            if (calls + 1 + COMPARED > CALLS) {
+                return;
+            }
             for (long word : Probe.packed(text)) {
                 Probe.due("write, seed " + seed, plain.write(word), house.write(word));
             }
@@ -213,6 +232,7 @@ public final class ModelTest {
             if (chance.nextInt(8) == 0) {
                 plain.clear();
                 house.clear();
+                calls += 1 + COMPARED;
                 compare("clear behind " + where, plain, house);
             }
         }

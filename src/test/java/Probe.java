@@ -1,9 +1,14 @@
-/** A house under test: texts go in whole, and every answer that is not the due one is printed. */
+/** A house under test: texts go in whole, and every answer that is not the due one is printed with its sentence. */
 final class Probe {
+    /** What the document promises is about so many calls of one object. */
+    static final int CALLS = 512;
+
+    private static String sentence = "";
     private static int wrong = 0;
     private static int asked = 0;
 
-    final ConsHouse house;
+    private final ConsHouse house;
+    private int calls = 0;
 
     Probe(int cells, int tasks, int steps) {
         house = new ConsHouse(cells, tasks, steps);
@@ -14,11 +19,16 @@ final class Probe {
         return new Probe(1000, 200, 20000);
     }
 
+    /** The document's words that the following answers are about. */
+    static void sentence(String words) {
+        sentence = words;
+    }
+
     static void due(String what, Object want, Object got) {
         asked++;
         if (!want.equals(got)) {
             wrong++;
-            System.out.println(what + ": answered " + got + ", due is " + want);
+            System.out.println("[" + sentence + "] " + what + ": answered " + got + ", due is " + want);
         }
     }
 
@@ -28,6 +38,88 @@ final class Probe {
             System.out.println(wrong + " of " + asked + " answers are not as due");
             System.exit(1);
         }
+    }
+
+    /** Nothing is promised about later calls, so a test that makes them is wrong itself. */
+    private ConsHouse called() {
+        calls++;
+        if (calls == CALLS + 1) {
+            due("calls of one object", CALLS, calls);
+        }
+        return house;
+    }
+
+    int calls() {
+        return calls;
+    }
+
+    boolean write(long eight) {
+        return called().write(eight);
+    }
+
+    void clear() {
+        called().clear();
+    }
+
+    int fault() {
+        return called().fault();
+    }
+
+    int place() {
+        return called().place();
+    }
+
+    int size() {
+        return called().size();
+    }
+
+    int out(int k) {
+        return called().out(k);
+    }
+
+    int count(int what) {
+        return called().count(what);
+    }
+
+    /** What next() does: "1" and "0" for its answers, the exception's name for a throw. */
+    String call() {
+        try {
+            return "" + called().next();
+        } catch (RuntimeException e) {
+            return e.getClass().getSimpleName();
+        }
+    }
+
+    /** The printed value, "none" behind the last expression, "place n" and "fault n" for faults. */
+    String next() {
+        String done = call();
+        switch (done) {
+            case "1":
+                return printed();
+            case "0":
+                return "none";
+            case "IllegalArgumentException":
+                return "place " + place();
+            case "IllegalStateException":
+                return "fault " + fault();
+            default:
+                return done;
+        }
+    }
+
+    /** As next(), but a value is not looked at: "1". */
+    String nextKind() {
+        String done = call();
+        return done.equals("IllegalStateException") ? "fault " + fault() : done;
+    }
+
+    String printed() {
+        StringBuilder all = new StringBuilder();
+        int size = size();
+        for (int k = 0; k < size; k++) {
+            all.append((char) out(k));
+        }
+        return all.toString();
     }
 
     /** The words that write a text, eight characters each. */
@@ -41,28 +133,9 @@ final class Probe {
 
     Probe write(String text) {
         for (long word : packed(text)) {
-            due("write of " + text, true, house.write(word));
+            due("write of " + text, true, write(word));
         }
         return this;
-    }
-
-    /** The printed value, "none" behind the last expression, "place n" and "fault n" for faults. */
-    String next() {
-        try {
-            return house.next() == 1 ? printed() : "none";
-        } catch (IllegalArgumentException e) {
-            return "place " + house.place();
-        } catch (IllegalStateException e) {
-            return "fault " + house.fault();
-        }
-    }
-
-    String printed() {
-        StringBuilder all = new StringBuilder();
-        for (int k = 0; k < house.size(); k++) {
-            all.append((char) house.out(k));
-        }
-        return all.toString();
     }
 
     /** Writes a text and asks for what its expressions answer, one after the other. */
@@ -75,16 +148,27 @@ final class Probe {
     }
 
     Probe counts(int what, int want) {
-        due("count(" + what + ")", want, house.count(what));
+        due("count(" + what + ")", want, count(what));
         return this;
     }
 
-    /** What one text's first expression answers in a new, wide house. */
-    static void gives1(String text, String answer) {
-        wide().gives(text, answer);
+    Probe stands(int want) {
+        due("place()", want, place());
+        return this;
     }
 
-    static String repeat(String part, int times) {
-        return part.repeat(times);
+    Probe tells(int want) {
+        due("fault()", want, fault());
+        return this;
+    }
+
+    Probe prints(String want) {
+        due("printed", want, printed());
+        return this;
+    }
+
+    /** What a text's expressions answer in a new, wide house. */
+    static void fresh(String text, String... answers) {
+        wide().gives(text, answers);
     }
 }
