@@ -51,6 +51,7 @@ public final class CountTest {
         probe.gives("(CONS 1 (CONS 2 3))", "(1 2 . 3)").counts(1, 4);
         probe.gives("((LAMBDA (X) (CAR X)) 1)", "fault 2").counts(1, 4);
         probe.gives("(QUOTE (1 2 3))", "(1 2 3)").counts(1, 4);
+        probe.gives("(CONS (QUOTE (1 2 3)) (CAR 1))", "fault 2").counts(1, 4);
         // A DEFINE ahead of a fault stays.
         probe.gives("(CAR (DEFINE X (1 2 3)))", "fault 2").counts(1, 7);
         probe.clear();

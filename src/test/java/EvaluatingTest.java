@@ -22,6 +22,8 @@ public final class EvaluatingTest {
         // Bindings are those of the caller, not those of the place where the function stands; they end with it.
         Probe.fresh("(DEFINE F (LAMBDA () X)) (F) ((LAMBDA (X) (F)) 3) (F)", "F", "fault 1", "3", "fault 1");
         Probe.fresh("(CONS ((LAMBDA (X) X) 1) X)", "fault 1");
+        Probe.fresh("((LAMBDA (X) (CONS ((LAMBDA (X) X) 1) X)) 2)", "(1 . 2)");
+        Probe.fresh("(DEFINE F (LAMBDA (Y) X)) ((LAMBDA (X) (F ((LAMBDA (X) X) 1))) 2)", "F", "2");
         // The value of a name is not evaluated again.
         Probe.fresh("((LAMBDA (X) X) (QUOTE Y))", "Y");
         Probe.fresh("((LAMBDA (X) X) (QUOTE (CAR 1)))", "(CAR 1)");
@@ -69,6 +71,10 @@ public final class EvaluatingTest {
         Probe.fresh("(COND (NIL X) (T 4) (Y 5))", "4");
         Probe.fresh("(COND (T (CAR (QUOTE (6)))))", "6");
         Probe.fresh("((LAMBDA (X) (COND ((NULL X) 1) ((EQ X 2) X) (T 3))) 2)", "2");
+        // e and (COND d ..) have the bindings of the COND, not those that p has made.
+        Probe.fresh("((LAMBDA (X) (COND (((LAMBDA (X) X) 2) X))) 1)", "1");
+        Probe.fresh("((LAMBDA (X) (COND (((LAMBDA (X) NIL) 2) 5) (T X))) 1)", "1");
+        Probe.fresh("((LAMBDA (X) (COND (((LAMBDA (X) NIL) 2) 5) (((LAMBDA (X) T) 3) X))) 1)", "1");
         Probe.sentence("(COND): fault 5");
         Probe.fresh("(COND)", "fault 5");
         Probe.fresh("(COND . NIL)", "fault 5");

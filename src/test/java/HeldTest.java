@@ -112,8 +112,10 @@ public final class HeldTest {
         needsBesideMaker(4, "((QUOTE ATOM) (MK))", 6, "NIL", 1);
         Probe.sentence("calls .., each with .. the values so far");
         needs("(X (MK) (MK))", 15 + 8, "fault 1", 1 + 16 + 16, Texts.maker(4));
-        needs("(X (MK) 2 3 4 5 6 7 (MK))", 30 + 18, "fault 1", 1 + 31 + 6 + 31, Texts.maker(9));
-        needs("(X 1 2 3 4 5 6 (MK) (MK))", 24 + 14, "fault 1", 1 + 6 + 25 + 25, Texts.maker(7));
+        for (int k = 0; k < 7; k++) {
+            needs("(X " + "1 ".repeat(k) + "(MK)" + " 1".repeat(6 - k) + "(MK))", 30 + 18, "fault 1", 1 + 31 + 6 + 31,
+                Texts.maker(9));
+        }
         Probe.sentence("calls .., each with .. what stands behind the one that is being evaluated now");
         needsBesideMaker(4, "(X (MK) (QUOTE (1 2 3 4 5 6)))", 13, "fault 1", 1);
         needsBesideMaker(15, "(X (NULL (QUOTE (1 2 3 4 5 6))) (MK))", 15, "fault 1", 1 + 3);
@@ -121,6 +123,10 @@ public final class HeldTest {
         needsBesideMaker(4, "(X (MK) . (1 . 2))", 5, "fault 3", 1);
         Probe.sentence("calls .., each with .. a");
         needsBesideMaker(8, "((LAMBDA (Y) (X (MK))) 1)", 10, "fault 1", 4);
+        // A call holds its own values alone, not those of one that was done before it.
+        needsBesideMaker(6, "(V (NULL (MK)) (ATOM (MK)))", 10, "fault 1", 2);
+        needs("(V (F 1 2 (MK)) (MK))", 30 + 6 + 17, "fault 1", 4 + 31 + 2, Texts.maker(9),
+            "(DEFINE F (LAMBDA (A B C) 1))");
         // When f is applied the call waits no more. The last CONS but one is waited for with a, the last is not.
         needs("((LAMBDA (Y) (MK)) 1)", 24 + 8, made(7), 3 + 24, Texts.maker(7));
     }
@@ -141,6 +147,10 @@ public final class HeldTest {
     private static void applyingsHold() {
         Probe.sentence("applyings whose f is being evaluated, with values");
         needsBesideMaker(6, "((MK) (QUOTE (1 2 3)))", 9, "fault 3", 3);
+        for (int k = 0; k < 8; k++) {
+            needsBesideMaker(13, "((MK) " + "1 ".repeat(k) + "(QUOTE (1 2 3))" + " 1".repeat(7 - k) + ")", 16,
+                "fault 3", 1 + 8 + 1);
+        }
         Probe.sentence("applyings whose f is being evaluated, with .. a");
         needsBesideMaker(7, "((LAMBDA (Y) ((MK))) 1)", 9, "fault 3", 5);
         // f itself is not held by it.
@@ -151,6 +161,8 @@ public final class HeldTest {
         Probe.sentence("when LAMBDA .. binds, f, its values and a");
         needs("((LAMBDA (Y) Y) (MK))", 12 + 9, made(3), 1 + 13 + 1, Texts.maker(3));
         needs("(F 1)", 4 + 10 + 4, "1", 8, pad(4), "(DEFINE F (LAMBDA (Y) (H Y)))", "(DEFINE H (LAMBDA (Z) Z))");
+        // Nothing else of the expression: ten pairs are read, five of them and four more are held then.
+        needs("((LAMBDA (Y Z) 1) 1 (QUOTE A))", 8 + 10, "1", 0, pad(8));
         Probe.sentence("two for each name bound (LAMBDA)");
         new Probe(16, 4, 100).gives(pad(12), "P").gives("((LAMBDA () 1))", "1");
         new Probe(16, 4, 100).gives(pad(13), "P").gives("((LAMBDA () 1))", "fault 6").counts(0, 0);
@@ -174,7 +186,7 @@ public final class HeldTest {
         // The third LABEL comes to the second by the binding of F, has four pairs of bindings, and wants two.
         needs("((LABEL F (LABEL G (LABEL H ATOM))) 1)", 5 + 6 + 4 + 2, "T", 5, pad(5));
         // A wrong form is told ahead.
-        new Probe(16, 4, 100).gives(pad(11), "P").gives("((LABEL 1 ATOM) 1)", "fault 3");
+        new Probe(16, 4, 100).gives(pad(5), "P").gives("((LABEL F (LABEL G (LABEL 1 ATOM))) 1)", "fault 3");
     }
 
     private static void example() {

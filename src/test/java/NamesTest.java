@@ -20,8 +20,8 @@ public final class NamesTest {
         Probe probe = Probe.wide();
         probe.counts(2, 18);
         probe.gives("(QUOTE (NIL T QUOTE COND DEFINE LAMBDA LABEL CAR CDR CONS ATOM EQ NULL NUMBERP PLUS DIFFERENCE"
-            + " TIMES LESSP))", "(NIL T QUOTE COND DEFINE LAMBDA LABEL CAR CDR CONS ATOM EQ NULL NUMBERP PLUS DIFFERENCE"
-            + " TIMES LESSP)").counts(2, 18);
+            + " TIMES LESSP))", "(NIL T QUOTE COND DEFINE LAMBDA LABEL CAR CDR CONS ATOM EQ NULL NUMBERP PLUS"
+            + " DIFFERENCE TIMES LESSP)").counts(2, 18);
         probe.gives("() (QUOTE (CARS CA LESSP1 T0 NI))", "NIL", "(CARS CA LESSP1 T0 NI)").counts(2, 23);
     }
 
@@ -93,6 +93,12 @@ public final class NamesTest {
         probe.gives("(DEFINE X18 1) (DEFINE X149 2) (DEFINE X84 3)", "X18", "X149", "X84");
         probe.gives("(QUOTE (X149 X18 X84 X148 X19)) X18 X149 X84 X19", "(X149 X18 X84 X148 X19)", "1", "2", "3",
             "fault 1");
+        // The pairs of the last one's GLOBAL are held, and counted.
+        Probe small = new Probe(16, 4, 100);
+        small.gives("(QUOTE" + distinct(18, 150) + ")", "fault 6").counts(2, 150);
+        small.gives("(DEFINE X149 (1 2 3))", "X149").counts(1, 3);
+        small.gives("(QUOTE (1 2 3 4 5 6 7 8 9 10 11))", "(1 2 3 4 5 6 7 8 9 10 11)");
+        small.gives("(QUOTE (1 2 3 4 5 6 7 8 9 10 11 12))", "fault 6").gives("X149", "(1 2 3)");
     }
 
     public static void main(String[] args) {

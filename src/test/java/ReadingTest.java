@@ -58,8 +58,10 @@ public final class ReadingTest {
         reads("ABCDEFGHIJKL", "ABCDEFGHIJKL");
         reads("A23456789012", "A23456789012");
         reads("ZZZZZZZZZZZZ", "ZZZZZZZZZZZZ");
-        Probe.fresh("ABCDEFGHIJKLM", "place 12");
-        Probe.fresh("ABCDEFGHIJKL1", "place 12");
+        for (String thirteenth : new String[] {"A", "M", "Z", "0", "1", "9"}) {
+            Probe.fresh("ABCDEFGHIJKL" + thirteenth, "place 12");
+            Probe.fresh("A99999999999" + thirteenth, "place 12");
+        }
         Probe.fresh("  ABCDEFGHIJKLMN", "place 14");
         Probe.fresh("(ABCDEFGHIJKLM)", "place 13");
         Probe.fresh("(A . ABCDEFGHIJKLM)", "place 17");
