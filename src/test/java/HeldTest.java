@@ -46,6 +46,9 @@ public final class HeldTest {
         new Probe(16, 4, 100).gives("(QUOTE ((1 . 2) (3 . 4) (5 . 6) (7 . 8) (9 . 0) (1 . 2) (3 . 4)))",
             "((1 . 2) (3 . 4) (5 . 6) (7 . 8) (9 . 0) (1 . 2) (3 . 4))");
         new Probe(16, 4, 100).gives("(QUOTE ((1 . 2) (3 . 4) (5 . 6) (7 . 8) (9 . 0) (1 . 2) (3 . 4) 5))", "fault 6");
+        // A FAULT of reading is none of an expression, however many pairs stand ahead of it.
+        new Probe(16, 4, 100).gives("(" + "1 ".repeat(20), "place 41").tells(10);
+        new Probe(16, 4, 100).gives("(" + "1 ".repeat(20) + ". )", "place 43").tells(10);
         // An atom is made of none, so that it is read beside any globals.
         Probe full = new Probe(16, 4, 100);
         full.gives(pad(13), "P").counts(1, 13).gives("5 () P T", "5", "NIL", made13(), "T");
