@@ -82,9 +82,9 @@ public final class WaitingTest {
     }
 
     /** Thirteen steps behind it, and all four tasks but one: what is given here meets both limits. */
-    private static void both(String inner, int tasks, int steps, String answer, int stepsTaken) {
+    private static Probe both(String inner, int tasks, int steps, String answer, int stepsTaken) {
         String text = "(DEFINE F (LAMBDA () 1)) (X (F) (F) (ATOM (ATOM " + inner + ")))";
-        new Probe(100, tasks, steps).gives(text, "F", answer).counts(0, stepsTaken);
+        return new Probe(100, tasks, steps).gives(text, "F", answer).counts(0, stepsTaken);
     }
 
     private static void sevenFirst() {
@@ -113,6 +113,11 @@ public final class WaitingTest {
         both(applying, 4, 14, "fault 7", 14);
         both(applying, 4, 13, "fault 8", 13);
         both(applying, 5, 14, "fault 8", 14);
+        // As 7 is asked for first, what waits for a beginning that has fault 8 has waited, and is counted.
+        both(call, 5, 13, "fault 8", 13).counts(3, 5);
+        both(cond, 5, 13, "fault 8", 13).counts(3, 5);
+        both(applying, 5, 14, "fault 8", 14).counts(3, 5);
+        both(call, 5, 12, "fault 8", 12).counts(3, 4);
         // Where nothing more would wait, all tasks in use are no fault: a second value, what is applied, an e.
         both("(CONS 1 2)", 4, 13, "fault 8", 13);
         both("(ATOM (F))", 4, 13, "fault 8", 13);
